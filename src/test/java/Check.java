@@ -41,14 +41,14 @@ final class Check {
         due(what, so ? 1 : 0, 1);
     }
 
-    /** The call answers a refusal, counts it, and changes nothing else that can be seen. */
+    /** The call answers a refusal and counts it (ModelTest looks at all that must not change then). */
     static void refused(String what, WellIsAskedFirst x, int refusal, LongSupplier call) {
-        long[] before = seen(x);
+        int[] before = refusals(x);
         due(what, call.getAsLong(), refusal);
-        long[] after = seen(x);
-        before[12 - 2 - refusal]++;
+        int[] after = refusals(x);
+        before[-2 - refusal]++;
         for (int i = 0; i < before.length; i++) {
-            due(what + ", then place " + i + " of what is seen", after[i], before[i]);
+            due(what + ", then refusals " + (-2 - i), after[i], before[i]);
         }
     }
 
@@ -68,17 +68,6 @@ final class Check {
             counts[i] = x.status(12 + i);
         }
         return counts;
-    }
-
-    private static long[] seen(WellIsAskedFirst x) {
-        long[] seen = new long[17 + 8];
-        for (int what = 0; what <= 16; what++) {
-            seen[what] = x.status(what);
-        }
-        for (int s = 0; s < 8; s++) {
-            seen[17 + s] = x.holds(s);
-        }
-        return seen;
     }
 
     static void lay(WellIsAskedFirst x, int s, int sort, long... elements) {

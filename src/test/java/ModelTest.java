@@ -78,7 +78,7 @@ public final class ModelTest {
         for (int s = 0; s < 5; s++) {
             layWord(s);
         }
-        while (calls < 500) {
+        while (calls < 440) {
             if (random.nextInt(8) == 0) {
                 layEcho();
             } else if (random.nextInt(30) == 0) {
@@ -88,6 +88,21 @@ public final class ModelTest {
             } else {
                 anyCall();
             }
+        }
+        lookAtAll();
+    }
+
+    /** What refusals and questions must not have changed. */
+    private void lookAtAll() throws ReflectiveOperationException {
+        for (int what = 0; what <= 16; what++) {
+            call("status", what);
+        }
+        for (int s = 0; s < 8; s++) {
+            call("holds", s);
+            call("element", s, random.nextInt(40));
+        }
+        for (int voice = 0; voice < model.status(0); voice++) {
+            call("voiceOf", voice, 2);
         }
     }
 
@@ -104,7 +119,7 @@ public final class ModelTest {
         int voices = model.status(0);
         int s = random.nextInt(5);
         int n = random.nextInt(4);
-        if (voices == 0 || calls > 470) {
+        if (voices == 0 || calls > 400) {
             anyCall();
             return;
         }
@@ -130,7 +145,7 @@ public final class ModelTest {
         int voices = model.status(0);
         int s = random.nextInt(5);
         int n = random.nextInt(13);
-        if (voices == 0 || calls > 400) {
+        if (voices == 0 || calls > 360) {
             anyCall();
             return;
         }

@@ -5,6 +5,7 @@ public final class PlayTest {
         promise33SuitsOfEight();
         promise33SuitsRefuses();
         promise34Buckets();
+        promise34BucketsAt40();
         promise34BucketsRefuses();
         promise35Odds();
         promise35OddsRefuses();
@@ -150,6 +151,10 @@ public final class PlayTest {
         bucketsAre(x, 15, 8, 1, 2);
         bucketsAre(x, 14, 8, 0, Check.NONE);
         bucketsAre(x, 14, 7, 1, 2);
+    }
+
+    private static void promise34BucketsAt40() {
+        WellIsAskedFirst x = thirds(Check.DEEP);
         x.weigh(9, 4);
         // YES at 12, 13, 14, 39, 40: none can draw beyond 40.
         bucketsAre(x, 40, 2, 1, 1);
@@ -195,6 +200,10 @@ public final class PlayTest {
         oddsAre(x, 2, 1000000, 120);
         x.tell(0, 40);
         oddsAre(x, 1, 100000, 36400);
+        x.weigh(9, 4);
+        // 40 in two ways and 39 in one.
+        oddsAre(x, 1, 300000, 36400);
+        x.weigh(5, 0);
         x.tell(0, 20);
         int yeses = 0;
         int depths = 0;

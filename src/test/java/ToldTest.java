@@ -35,7 +35,12 @@ public final class ToldTest {
         depthsAre(x, 1, 2, 0, Check.NONE, Check.NONE);
         depthsAre(x, 2, 1, 0, Check.NONE, Check.NONE);
         depthsAre(x, 1, 13, 0, Check.NONE, Check.NONE);
-        x.set(1, 0, 2);
+        promise29DepthsOfThirds();
+    }
+
+    private static void promise29DepthsOfThirds() {
+        WellIsAskedFirst x = thirds(Check.VOICE);
+        Check.lay(x, 1, Check.LONGS, 2);
         depthsAre(x, 1, 1, 2, 6, 8);
         x.set(1, 0, 13);
         depthsAre(x, 1, 1, 2, 39, 40);
@@ -45,6 +50,16 @@ public final class ToldTest {
         depthsAre(x, 1, 1, 0, Check.NONE, Check.NONE);
         x.set(1, 0, 3 + (1L << 32));
         depthsAre(x, 1, 1, 0, Check.NONE, Check.NONE);
+        WellIsAskedFirst y = Check.wellOf(Check.DEEP, 2);
+        Check.lay(y, 0, Check.BYTES, 0);
+        Check.lay(y, 1, Check.BYTES, 0);
+        depthsAre(y, 1, 1, 1, 0, 0);
+        WellIsAskedFirst z = Check.wellOf(Check.PRIEST, 13);
+        Check.lay(z, 0, Check.BYTES, 0);
+        Check.lay(z, 1, Check.BYTES, 11);
+        depthsAre(z, 1, 1, 1, 40, 40);
+        Check.refused("29: what 3", z, Check.BAD, () -> z.depths(7, 1, 1, 1, 0, 3));
+        Check.refused("29: what -1", z, Check.BAD, () -> z.depths(0, 1, 1, 1, 0, -1));
         Check.due("29: nothing changed", x.status(1), 10);
     }
 
@@ -96,6 +111,18 @@ public final class ToldTest {
         Check.granted("32: one depth", x, Check.NONE, () -> x.next(0, 2, 1, 1, 0));
         Check.lay(x, 1, Check.BYTES, 40);
         Check.granted("32: none", x, Check.NONE, () -> x.next(0, 1, 1, 1, 0));
+        x.set(1, 0, 2);
+        // 6 and 8: 1 is lost at 6 alone.
+        Check.granted("32: two depths", x, 1, () -> x.next(0, 1, 1, 1, 0));
+        x.set(1, 0, 13);
+        // 39 and 40: 2 is lost at 40 alone.
+        Check.granted("32: to 40", x, 2, () -> x.next(0, 1, 1, 1, 0));
+        // 0, 7, 14, 21, 28, 35 lose 0; their thirds are all others.
+        Check.granted("32: nothing came back", x, 1, () -> x.next(0, 1, 1, 0, 0));
+        Check.lay(x, 0, Check.BYTES, 1);
+        Check.lay(x, 1, Check.BYTES, 1);
+        // 0, 1, 2 have one third: at best one of them is lost, 0 first.
+        Check.granted("32: from 0 on", x, 0, () -> x.next(0, 1, 1, 1, 0));
         WellIsAskedFirst y = thirds(Check.DEEP);
         Check.lay(y, 1, Check.BYTES, 3);
         Check.granted("32: none parts them: the first", y, 0, () -> y.next(0, 1, 1, 1, 0));
@@ -170,45 +197,46 @@ public final class ToldTest {
         Check.refused("48: three are no two twos", x, Check.BAD, () -> x.judge(0, 2, 1, 2));
         Check.refused("48: n 3 of two", x, Check.BAD, () -> x.judge(0, 3, 1, 1));
         Check.refused("48: no sound", x, Check.STUCK, () -> x.judge(0, 2, 1, 1));
+        x.row(4, Check.BYTES, 5);
+        Check.refused("48: five are no three twos", x, Check.BAD, () -> x.judge(0, 1, 4, 3));
+        Check.granted("48: five are two twos", x, Check.NONE, () -> x.judge(0, 1, 4, 2));
         Check.granted("48: one two of three elements", x, Check.NONE, () -> x.judge(0, 1, 1, 1));
     }
 
     private interface EchoCall {
-        long of(int s, int n, int p, int m, int voice);
+        long of(WellIsAskedFirst x, int s, int n, int p, int m, int voice);
     }
 
     private static void byAWordAndAnEcho() {
+        refusals("29", (x, s, n, p, m, voice) -> x.depths(s, n, p, m, voice, 0));
+        refusals("30", (x, s, n, p, m, voice) -> x.fits(s, n, p, m, voice, 1));
+        refusals("31", (x, s, n, p, m, voice) -> x.below(s, n, p, m, voice));
+        refusals("32", (x, s, n, p, m, voice) -> x.next(s, n, p, m, voice));
+    }
+
+    private static void refusals(String promise, EchoCall call) {
         WellIsAskedFirst x = Check.wellOf(Check.VOICE, 0);
         Check.lay(x, 0, Check.BYTES, 0, 40);
         Check.lay(x, 1, Check.BYTES, 99, -1, 0);
         x.show(2, 0);
-        refusals("29", x, (s, n, p, m, voice) -> x.depths(s, n, p, m, voice, 0));
-        refusals("30", x, (s, n, p, m, voice) -> x.fits(s, n, p, m, voice, 1));
-        refusals("31", x, (s, n, p, m, voice) -> x.below(s, n, p, m, voice));
-        refusals("32", x, (s, n, p, m, voice) -> x.next(s, n, p, m, voice));
-        Check.refused("29: what 3", x, Check.BAD, () -> x.depths(2, 1, 1, 1, 0, 3));
-        Check.refused("29: what -1", x, Check.BAD, () -> x.depths(2, 1, 1, 1, 0, -1));
-    }
-
-    private static void refusals(String promise, WellIsAskedFirst x, EchoCall call) {
         String what = promise + ": by a word: ";
-        Check.refused(what + "shelf s", x, Check.BAD, () -> call.of(8, 1, 2, 1, 0));
-        Check.refused(what + "n 13", x, Check.BAD, () -> call.of(0, 13, 2, 1, 0));
-        Check.refused(what + "n -1", x, Check.BAD, () -> call.of(0, -1, 2, 1, 0));
-        Check.refused(what + "shelf p", x, Check.BAD, () -> call.of(2, 1, 8, 1, 0));
-        Check.refused(what + "shelf p", x, Check.BAD, () -> call.of(2, 1, -1, 1, 0));
-        Check.refused(what + "m 14", x, Check.BAD, () -> call.of(2, 1, 1, 14, 0));
-        Check.refused(what + "m -1", x, Check.BAD, () -> call.of(2, 1, 1, -1, 0));
-        Check.refused(what + "voice", x, Check.BAD, () -> call.of(2, 1, 1, 1, 1));
-        Check.refused(what + "voice", x, Check.BAD, () -> call.of(2, 1, 1, 1, -1));
-        Check.refused(what + "s a voice", x, Check.OTHER, () -> call.of(2, 1, 3, 1, 0));
-        Check.refused(what + "p a voice", x, Check.OTHER, () -> call.of(3, 1, 2, 1, 0));
-        Check.refused(what + "s nothing", x, Check.NOTHING, () -> call.of(3, 1, 1, 4, 0));
-        Check.refused(what + "p nothing", x, Check.NOTHING, () -> call.of(0, 3, 3, 1, 0));
-        Check.refused(what + "fewer in s", x, Check.BAD, () -> call.of(0, 3, 1, 1, 0));
-        Check.refused(what + "fewer in p", x, Check.BAD, () -> call.of(0, 2, 1, 4, 0));
-        Check.refused(what + "no sound", x, Check.STUCK, () -> call.of(0, 2, 1, 1, 0));
-        Check.holds(what + "an echo may be what it is", call.of(0, 1, 1, 3, 0) >= Check.NONE);
-        Check.holds(what + "one shelf for both", call.of(0, 1, 0, 2, 0) >= Check.NONE);
+        Check.refused(what + "shelf s", x, Check.BAD, () -> call.of(x, 8, 1, 2, 1, 0));
+        Check.refused(what + "n 13", x, Check.BAD, () -> call.of(x, 0, 13, 2, 1, 0));
+        Check.refused(what + "n -1", x, Check.BAD, () -> call.of(x, 0, -1, 2, 1, 0));
+        Check.refused(what + "shelf p", x, Check.BAD, () -> call.of(x, 2, 1, 8, 1, 0));
+        Check.refused(what + "shelf p", x, Check.BAD, () -> call.of(x, 2, 1, -1, 1, 0));
+        Check.refused(what + "m 14", x, Check.BAD, () -> call.of(x, 2, 1, 1, 14, 0));
+        Check.refused(what + "m -1", x, Check.BAD, () -> call.of(x, 2, 1, 1, -1, 0));
+        Check.refused(what + "voice", x, Check.BAD, () -> call.of(x, 2, 1, 1, 1, 1));
+        Check.refused(what + "voice", x, Check.BAD, () -> call.of(x, 2, 1, 1, 1, -1));
+        Check.refused(what + "s a voice", x, Check.OTHER, () -> call.of(x, 2, 1, 3, 1, 0));
+        Check.refused(what + "p a voice", x, Check.OTHER, () -> call.of(x, 3, 1, 2, 1, 0));
+        Check.refused(what + "s nothing", x, Check.NOTHING, () -> call.of(x, 3, 1, 1, 4, 0));
+        Check.refused(what + "p nothing", x, Check.NOTHING, () -> call.of(x, 0, 3, 3, 1, 0));
+        Check.refused(what + "fewer in s", x, Check.BAD, () -> call.of(x, 0, 3, 1, 1, 0));
+        Check.refused(what + "fewer in p", x, Check.BAD, () -> call.of(x, 0, 2, 1, 4, 0));
+        Check.refused(what + "no sound", x, Check.STUCK, () -> call.of(x, 0, 2, 1, 1, 0));
+        Check.holds(what + "an echo may be what it is", call.of(x, 0, 1, 1, 3, 0) >= Check.NONE);
+        Check.holds(what + "one shelf for both", call.of(x, 0, 1, 0, 2, 0) >= Check.NONE);
     }
 }

@@ -132,8 +132,9 @@ public final class TruthTest {
         WellIsAskedFirst x = Check.wellOfAllKinds(4);
         Check.lay(x, 0, Check.BYTES, 1);
         Check.refused("54: nothing kept", x, Check.STUCK, () -> x.again());
-        x.shout(0, 1, 0);
-        x.shout(0, 1, 1);
+        x.weigh(9, 0);
+        Check.due("53: 9 by 9", x.shout(0, 1, 0), 1);
+        Check.due("53: a PRIEST's 7 by 9", x.shout(0, 1, 3), 0);
         x.weigh(9, 3);
         x.seed(77);
         int[] kept = new int[11];
@@ -188,6 +189,13 @@ public final class TruthTest {
         x.show(1, 1);
         x.row(2, 3, 4);
         x.pitch(0, 15);
+        WellIsAskedFirst z = Check.wellOf(Check.VOICE, 1);
+        z.image();
+        z.voice(Check.VOICE, 0, 0);
+        z.show(0, 1);
+        z.show(7, 1);
+        z.again();
+        Check.due("54: no shelf holds it", z.status(10), 0);
         x.again();
         Check.due("54: a voice that is", x.holds(0), 10);
         Check.due("54: it has what was kept", x.says(0, Check.VOICE), 1);

@@ -6,6 +6,7 @@ public final class VoicesTest {
         promise18Lost();
         promise28AskOne();
         promise28AskTwo();
+        promise28AskNone();
         promise45Plain();
         promise46Twins();
         promise47OfKind();
@@ -14,13 +15,13 @@ public final class VoicesTest {
 
     /** DEPTH 10, PITCH 0: a third is 3. */
     private static void promise17Back() {
-        WellIsAskedFirst x = Check.wellOfAllKinds(0);
         int[] sounds = {0, 1, 2, 3, 4, 5, 11, 37, 38, 39};
         int[] want = {3, 7, 11, 6, Check.NONE, 14, Check.NONE, 3, 7, Check.NONE};
         int[] deep = {3, 7, 11, 6, 10, 14, 20, 3, 7, 2};
         int[] priest = {1, 3, 5, 4, 6, 8, 14, 39, 1, 0};
         for (int i = 0; i < sounds.length; i++) {
             int sound = sounds[i];
+            WellIsAskedFirst x = Check.wellOfAllKinds(0);
             String what = "17: back of " + sound + " by ";
             for (int voice : new int[] {Check.VOICE, Check.STUTTERER, Check.PROPHET, Check.CHILD}) {
                 Check.granted(what + voice, x, want[i], () -> x.back(voice, sound));
@@ -28,6 +29,7 @@ public final class VoicesTest {
             Check.granted(what + "DEEP", x, deep[i], () -> x.back(Check.DEEP, sound));
             Check.granted(what + "PRIEST", x, priest[i], () -> x.back(Check.PRIEST, sound));
         }
+        WellIsAskedFirst x = Check.wellOfAllKinds(0);
         Check.refused("17: voice 6", x, Check.BAD, () -> x.back(6, 0));
         Check.refused("17: voice -1", x, Check.BAD, () -> x.back(-1, 0));
         Check.refused("17: sound 40", x, Check.BAD, () -> x.back(0, 40));
@@ -89,6 +91,8 @@ public final class VoicesTest {
     private static void promise28AskTwo() {
         WellIsAskedFirst x = Check.wellOf(Check.STUTTERER, 0);
         x.weigh(2, 1);
+        Check.granted("28: two, 3 and 3 and 3", x, 2, () -> x.ask(0, Check.NONE));
+        Check.granted("28: the second", x, 0, () -> x.ask(0, 1));
         x.tell(0, 0);
         Check.granted("28: two", x, 2, () -> x.ask(0, Check.NONE));
         Check.granted("28: the first", x, 0, () -> x.ask(0, 0));
@@ -97,6 +101,19 @@ public final class VoicesTest {
         x.weigh(4, 3);
         // 0 is lost, and so is 7: the first second one that leaves 3 is 3 itself.
         Check.granted("28: the second by 4", x, 3, () -> x.ask(0, 1));
+    }
+
+    /** By a third of 39 all SOUNDS come back as 39 or as 2, 5, 8 and so on: no two are a multiple of 9 together. */
+    private static void promise28AskNone() {
+        WellIsAskedFirst x = Check.wellOf(Check.CHILD, 0);
+        x.tell(2, 1070);
+        x.weigh(9, 0);
+        Check.granted("28: none", x, Check.NONE, () -> x.ask(0, Check.NONE));
+        Check.refused("28: none has a first", x, Check.STUCK, () -> x.ask(0, 0));
+        x.weigh(9, 6);
+        Check.granted("28: 39 and 39", x, 2, () -> x.ask(0, Check.NONE));
+        Check.granted("28: the first", x, 0, () -> x.ask(0, 0));
+        Check.granted("28: the second", x, 0, () -> x.ask(0, 1));
     }
 
     private static void promise45Plain() {

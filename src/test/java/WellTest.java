@@ -31,6 +31,9 @@ public final class WellTest {
             Check.granted("9: voice", x, voice, () -> x.voice(kind, 9, 20 - number));
         }
         Check.due("9: how many", x.status(0), 8);
+        Check.due("9: the last one's kind", x.voiceOf(7, 0), 1);
+        Check.due("9: the last one's a", x.voiceOf(7, 1), 9);
+        Check.due("9: the last one's pitch", x.voiceOf(7, 2), 13);
         Check.due("9: its kind", x.voiceOf(5, 0), 5);
         Check.due("9: its a", x.voiceOf(5, 1), 9);
         Check.due("9: its pitch", x.voiceOf(5, 2), 15);
@@ -133,6 +136,9 @@ public final class WellTest {
         Check.due("15: blanks all over", read(x, "   depth   6  ;  rain 2   "), 2);
         Check.due("15: depth", x.status(1), 6);
         Check.due("15: leading noughts", read(x, "depth 040"), 1);
+        Check.due("15: the least of each", read(x, "day 0; rain 0; weigh 3 0; depth 0"), 4);
+        Check.due("15: day", x.status(3), 0);
+        Check.due("15: weight", x.status(4), 3);
         Check.due("15: voice glued", read(x, "voice0 1 2"), 1);
         Check.due("15: tokens as long as can be", read(x, "voice 012"), -20 - 6);
         Check.due("15: a word too long", read(x, "depths 3"), -20);
@@ -185,6 +191,14 @@ public final class WellTest {
         fault("depth 1rain", 7);
         fault("depth 1; Rain 1", 9);
         fault("dEpth 1", 0);
+        fault("depthz 1", 0);
+        fault("depta 1", 0);
+        fault("tepth 1", 0);
+        fault("main 1", 0);
+        fault("say 1", 0);
+        fault("noice 0 0 0", 0);
+        fault("witch 0 0", 0);
+        fault("neigh 5 0", 0);
         fault("depth -1", 6);
         fault("depth 1\t", 7);
         fault("depth 1;\u00ff", 8);

@@ -26,8 +26,7 @@ public final class WordTest {
     private static void echoIs(WellIsAskedFirst x, int n, int voice, int... want) {
         Check.granted("19: how many", x, want.length, () -> x.echo(0, n, voice, Check.NONE));
         for (int i = 0; i < want.length; i++) {
-            int place = i;
-            Check.granted("19: place " + i, x, want[i], () -> x.echo(0, n, voice, place));
+            Check.due("19: place " + i, x.echo(0, n, voice, i), want[i]);
         }
         Check.refused("19: not so many", x, Check.STUCK, () -> x.echo(0, n, voice, want.length));
     }
@@ -47,6 +46,11 @@ public final class WordTest {
         }
         Check.lay(x, 0, Check.BYTES, 4, 1);
         echoIs(x, 2, Check.STUTTERER, 7);
+        promise19LongEcho();
+    }
+
+    private static void promise19LongEcho() {
+        WellIsAskedFirst x = Check.wellOfAllKinds(0);
         Check.lay(x, 0, Check.LONGS, 0, 1, 2, 3, 5, 6, 7, 8, 9, 10, 12, 13);
         echoIs(x, 12, Check.STUTTERER, 3, 3, 7, 11, 6, 14, 9, 13, 17, 12, 16, 15, 19);
         echoIs(x, 12, Check.PROPHET, 19, 15, 16, 12, 17, 13, 9, 14, 6, 11, 7, 3, 3);
@@ -170,6 +174,12 @@ public final class WordTest {
         WellIsAskedFirst y = thirds(Check.DEEP);
         Check.granted("25: 0 by a DEEP one", y, 0, () -> y.yeses(0, 1, 0, 1));
         Check.granted("25: how many", y, 9, () -> y.yeses(0, 1, 0, 0));
+        WellIsAskedFirst z = thirds(Check.PRIEST);
+        z.pitch(0, 13);
+        z.weigh(9, 2);
+        Check.granted("25: 40 alone", z, 1, () -> z.yeses(0, 1, 0, 0));
+        Check.granted("25: 40 alone", z, 40, () -> z.yeses(0, 1, 0, 1));
+        Check.granted("41: 40 alone", z, 40, () -> z.best(0, 1, 0));
     }
 
     private static void promise26Tuned() {
@@ -263,6 +273,14 @@ public final class WordTest {
         Check.granted("39: one alone turned", x, 1, () -> x.alike(0, 1, Check.STUTTERER, Check.PROPHET));
         Check.granted("39: none", x, 1, () -> x.alike(0, 0, Check.PRIEST, Check.PROPHET));
         Check.granted("39: a priest's", x, 0, () -> x.alike(0, 2, Check.PRIEST, Check.DEEP));
+        // A third of 10 and of 70 is 3 and 23: 1 comes back as 7 by both, 0 as 3 and 23.
+        WellIsAskedFirst y = Check.wellOfAllKinds(0);
+        y.tell(2, 600);
+        Check.lay(y, 0, Check.BYTES, 0, 1);
+        Check.lay(y, 1, Check.BYTES, 1, 0);
+        Check.granted("39: the first is another", y, 0, () -> y.alike(0, 2, Check.VOICE, Check.CHILD));
+        Check.granted("39: the last is another", y, 0, () -> y.alike(1, 2, Check.VOICE, Check.CHILD));
+        Check.granted("39: the same one", y, 1, () -> y.alike(1, 1, Check.VOICE, Check.CHILD));
         Check.refused("39: other 6", x, Check.BAD, () -> x.alike(0, 2, 0, 6));
         Check.refused("39: other -1", x, Check.BAD, () -> x.alike(0, 2, 0, -1));
     }
@@ -309,14 +327,6 @@ public final class WordTest {
         Check.granted("41: no word, none", x, 0, () -> x.best(0, 0, 1));
         Check.refused("41: what 2", x, Check.BAD, () -> x.best(0, 1, 2));
         Check.refused("41: what -1", x, Check.BAD, () -> x.best(0, 1, -1));
-        WellIsAskedFirst y = thirds(Check.DEEP);
-        y.pitch(0, 20);
-        y.row(0, Check.BYTES, 1);
-        y.weigh(9, 2);
-        // A third of DEPTH and 20 is 11 at 13, 14, 15, and 20 at 40.
-        y.voice(Check.DEEP, 0, 20);
-        y.voice(Check.PRIEST, 0, 20);
-        Check.granted("41: a PRIEST's 13 is at 26", y, 13, () -> y.best(0, 1, 0));
     }
 
     private static void promise42Mute() {
@@ -355,47 +365,50 @@ public final class WordTest {
     }
 
     private interface WordCall {
-        long of(int s, int n, int voice);
+        long of(WellIsAskedFirst x, int s, int n, int voice);
     }
 
     private static void byAWord() {
-        WellIsAskedFirst x = Check.wellOf(Check.VOICE, 0);
-        Check.lay(x, 0, Check.LONGS, 39, 0, 1L << 32, 40, -1);
-        x.show(1, 0);
-        refusalsByAWord("19", x, true, (s, n, voice) -> x.echo(s, n, voice, Check.NONE));
-        refusalsByAWord("20", x, true, (s, n, voice) -> x.sum(s, n, voice));
-        refusalsByAWord("21", x, true, (s, n, voice) -> x.weighed(s, n, voice));
-        refusalsByAWord("22", x, false, (s, n, voice) -> x.heard(s, n));
-        refusalsByAWord("23", x, true, (s, n, voice) -> x.when(s, n, voice));
-        refusalsByAWord("24", x, true, (s, n, voice) -> x.sure(s, n, voice));
-        refusalsByAWord("25", x, true, (s, n, voice) -> x.yeses(s, n, voice, 0));
-        refusalsByAWord("26", x, true, (s, n, voice) -> x.tuned(s, n, voice));
-        refusalsByAWord("27", x, true, (s, n, voice) -> x.ends(s, n, voice));
-        refusalsByAWord("37", x, true, (s, n, voice) -> x.rains(s, n, voice, 0));
-        refusalsByAWord("38", x, false, (s, n, voice) -> x.fairest(s, n));
-        refusalsByAWord("39", x, true, (s, n, voice) -> x.alike(s, n, voice, 0));
-        refusalsByAWord("40", x, true, (s, n, voice) -> x.less(s, n, voice));
-        refusalsByAWord("41", x, false, (s, n, voice) -> x.best(s, n, 0));
-        refusalsByAWord("42", x, false, (s, n, voice) -> x.mute(s, n));
-        refusalsByAWord("43", x, true, (s, n, voice) -> x.like(s, n, voice));
+        refusalsByAWord("19", true, (x, s, n, voice) -> x.echo(s, n, voice, Check.NONE));
+        refusalsByAWord("20", true, (x, s, n, voice) -> x.sum(s, n, voice));
+        refusalsByAWord("21", true, (x, s, n, voice) -> x.weighed(s, n, voice));
+        refusalsByAWord("22", false, (x, s, n, voice) -> x.heard(s, n));
+        refusalsByAWord("23", true, (x, s, n, voice) -> x.when(s, n, voice));
+        refusalsByAWord("24", true, (x, s, n, voice) -> x.sure(s, n, voice));
+        refusalsByAWord("25", true, (x, s, n, voice) -> x.yeses(s, n, voice, 0));
+        refusalsByAWord("26", true, (x, s, n, voice) -> x.tuned(s, n, voice));
+        refusalsByAWord("27", true, (x, s, n, voice) -> x.ends(s, n, voice));
+        refusalsByAWord("37", true, (x, s, n, voice) -> x.rains(s, n, voice, 0));
+        refusalsByAWord("38", false, (x, s, n, voice) -> x.fairest(s, n));
+        refusalsByAWord("39", true, (x, s, n, voice) -> x.alike(s, n, voice, 0));
+        refusalsByAWord("40", true, (x, s, n, voice) -> x.less(s, n, voice));
+        refusalsByAWord("41", false, (x, s, n, voice) -> x.best(s, n, 0));
+        refusalsByAWord("42", false, (x, s, n, voice) -> x.mute(s, n));
+        refusalsByAWord("43", true, (x, s, n, voice) -> x.like(s, n, voice));
     }
 
-    private static void refusalsByAWord(String promise, WellIsAskedFirst x, boolean takesVoice, WordCall call) {
+    private static void refusalsByAWord(String promise, boolean takesVoice, WordCall call) {
+        WellIsAskedFirst x = Check.wellOf(Check.VOICE, 0);
+        Check.lay(x, 0, Check.LONGS, 39, 0, 1L << 32);
+        Check.lay(x, 3, Check.BYTES, 40);
+        Check.lay(x, 4, Check.BYTES, -1);
+        x.show(1, 0);
         String what = promise + ": by a word: ";
-        Check.refused(what + "shelf 8", x, Check.BAD, () -> call.of(8, 1, 0));
-        Check.refused(what + "shelf -1", x, Check.BAD, () -> call.of(-1, 1, 0));
-        Check.refused(what + "n 13", x, Check.BAD, () -> call.of(2, 13, 0));
-        Check.refused(what + "n -1", x, Check.BAD, () -> call.of(1, -1, 0));
-        Check.refused(what + "n huge", x, Check.BAD, () -> call.of(0, Integer.MAX_VALUE, 0));
+        Check.refused(what + "shelf 8", x, Check.BAD, () -> call.of(x, 8, 1, 0));
+        Check.refused(what + "shelf -1", x, Check.BAD, () -> call.of(x, -1, 1, 0));
+        Check.refused(what + "n 13", x, Check.BAD, () -> call.of(x, 2, 13, 0));
+        Check.refused(what + "n -1", x, Check.BAD, () -> call.of(x, 1, -1, 0));
+        Check.refused(what + "n huge", x, Check.BAD, () -> call.of(x, 0, Integer.MAX_VALUE, 0));
         if (takesVoice) {
-            Check.refused(what + "voice 1", x, Check.BAD, () -> call.of(2, 1, 1));
-            Check.refused(what + "voice -1", x, Check.BAD, () -> call.of(1, 1, -1));
+            Check.refused(what + "voice 1", x, Check.BAD, () -> call.of(x, 2, 1, 1));
+            Check.refused(what + "voice -1", x, Check.BAD, () -> call.of(x, 1, 1, -1));
         }
-        Check.refused(what + "a voice there", x, Check.OTHER, () -> call.of(1, 0, 0));
-        Check.refused(what + "nothing there", x, Check.NOTHING, () -> call.of(2, 0, 0));
-        Check.refused(what + "fewer elements", x, Check.BAD, () -> call.of(0, 6, 0));
-        Check.refused(what + "40 is no sound", x, Check.STUCK, () -> call.of(0, 5, 0));
-        Check.refused(what + "2 to the 32 is no sound", x, Check.STUCK, () -> call.of(0, 3, 0));
-        Check.holds(what + "39 and 0 are sounds", call.of(0, 2, 0) >= Check.NONE);
+        Check.refused(what + "a voice there", x, Check.OTHER, () -> call.of(x, 1, 0, 0));
+        Check.refused(what + "nothing there", x, Check.NOTHING, () -> call.of(x, 2, 0, 0));
+        Check.refused(what + "fewer elements", x, Check.BAD, () -> call.of(x, 0, 4, 0));
+        Check.refused(what + "40 is no sound", x, Check.STUCK, () -> call.of(x, 3, 1, 0));
+        Check.refused(what + "-1 is no sound", x, Check.STUCK, () -> call.of(x, 4, 1, 0));
+        Check.refused(what + "2 to the 32 is no sound", x, Check.STUCK, () -> call.of(x, 0, 3, 0));
+        Check.holds(what + "39 and 0 are sounds", call.of(x, 0, 2, 0) >= Check.NONE);
     }
 }
