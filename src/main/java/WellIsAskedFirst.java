@@ -21,7 +21,7 @@ public final class WellIsAskedFirst {
     private static final int CHILD = 5;
 
     private static final int DEPTH_MOST = 40;
-    private static final long ALL_DEPTHS = (1L << DEPTH_MOST + 1) - 1;
+    private static final long ALL_DEPTHS = (1L << (DEPTH_MOST + 1)) - 1;
     private static final int RAIN_MOST = 9;
     private static final int RAINS = RAIN_MOST + 1;
     private static final int DAY_MOST = 9999;
@@ -1030,7 +1030,7 @@ public final class WellIsAskedFirst {
         int first = NONE;
         for (int voice = 0; voice < now.voices; voice++) {
             int goneThen = gone | 1 << voice;
-            if (goneThen != gone && goneThen <= ALL_VOICES) {
+            if (goneThen != gone && isWithin(goneThen, 0, ALL_VOICES)) {
                 int count = (yeses >> voice & 1) + mostFrom[goneThen];
                 if (count > most) {
                     most = count;
@@ -1055,11 +1055,11 @@ public final class WellIsAskedFirst {
     }
 
     private static long depthsPouredInto(long depths) {
-        return (depths << 1 | depths & 1) & ALL_DEPTHS;
+        return ((depths << 1) | (depths & 1)) & ALL_DEPTHS;
     }
 
     private static long depthsDrawnInto(long depths) {
-        return depths >>> 1 | depths & 1L << DEPTH_MOST;
+        return (depths >>> 1) | (depths & (1L << DEPTH_MOST));
     }
 
     /** DEPTHS from which the first one wins, by those from which he wins a turn later. */
@@ -1084,7 +1084,10 @@ public final class WellIsAskedFirst {
         Arrays.fill(waysThen, 0);
         for (int depth = 0; depth <= DEPTH_MOST; depth++) {
             for (int rain = 0; rain <= RAIN_MOST; rain++) {
-                waysThen[depthBehind(depth, rain)] += ways[depth];
+                int depthThen = depthBehind(depth, rain);
+                if (isWithin(depthThen, 0, DEPTH_MOST)) {
+                    waysThen[depthThen] += ways[depth];
+                }
             }
         }
         System.arraycopy(waysThen, 0, ways, 0, DEPTH_MOST + 1);
