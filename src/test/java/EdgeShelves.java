@@ -331,6 +331,12 @@ final class EdgeShelves {
             Supplier<WellIsAskedFirst> high = Scene.but(scene, x -> x.pitch(own, 20));
             Edge.asked(own + " as a VOICE of PITCH 20", high, 20, x -> x.says(Scene.A_VOICE, Check.VOICE));
         }
+        Supplier<WellIsAskedFirst> child = Scene.but(Scene::laid, x -> {
+            x.show(Scene.A_VOICE, Check.CHILD);
+            x.pitch(Check.CHILD, 20);
+            x.tell(2, 9999);
+        });
+        Edge.asked("its PITCH, not as it is heard today", child, 20, x -> x.says(Scene.A_VOICE, Check.VOICE));
         Supplier<WellIsAskedFirst> priest = Scene.but(Scene::laid, x -> x.show(Scene.A_VOICE, Check.PRIEST));
         Edge.asked("a PRIEST as DEEP, as a PRIEST", priest, 90, x -> x.says(Scene.A_VOICE, Check.DEEP));
         Supplier<WellIsAskedFirst> prophet = Scene.but(Scene::laid, x -> x.show(Scene.A_VOICE, Check.PROPHET));

@@ -82,6 +82,11 @@ final class EdgeTold {
         Edge.asked("three fit, and none parts them", told(Check.DEEP, 0, 10, 0), 0, x -> x.next(0, 1, 1, 1, 0));
         // At 0 it is LOST; of 1 and 2 the SOUND 5 is LOST at 2, and none before it at either.
         Edge.asked("1 and 2 fit", told(Check.VOICE, 0, 10, 0), 5, x -> x.next(0, 1, 1, 1, 0));
+        // 0, 1, 2: 0 is LOST at 0, 5 at 2, 6 at 1.
+        Supplier<WellIsAskedFirst> one = Scene.but(told(Check.VOICE, 0, 10, 1), x -> Scene.row(x, 0, Check.BYTES, 1));
+        Edge.asked("0, 1 and 2 fit", one, 0, x -> x.next(0, 1, 1, 1, 0));
+        // 6 and 8: 1 is LOST at 6, 0 at neither.
+        Edge.asked("6 and 8 fit", told(Check.VOICE, 0, 10, 2), 1, x -> x.next(0, 1, 1, 1, 0));
         // 9, 10, 11: 3 is LOST at 11, 4 at 10, 5 at 9: of two left each the first.
         Edge.asked("of several the first", told(Check.VOICE, 0, 10, 3), 3, x -> x.next(0, 1, 1, 1, 0));
         // All DEPTHS: 0 has 13 thirds of three DEPTHS and one of two; no SOUND has more.

@@ -41,7 +41,16 @@ final class EdgeTruth {
         int number = 0;
         for (ToLongFunction<WellIsAskedFirst> ask : asks) {
             number++;
-            Edge.answers("what asks, number " + number, scene, x -> Math.max(Check.NONE, ask.applyAsLong(x)));
+            Edge.answers("what asks, number " + number, scene, ask);
+        }
+        // Nor does what one call works with come into another one's answer.
+        WellIsAskedFirst x = scene.get();
+        for (int round = 0; round < 3; round++) {
+            for (int i = 0; i < asks.size(); i++) {
+                int at = round == 1 ? asks.size() - 1 - i : i;
+                ToLongFunction<WellIsAskedFirst> ask = asks.get(at);
+                Edge.due("asked once more, number " + (at + 1), ask.applyAsLong(x), ask.applyAsLong(scene.get()));
+            }
         }
     }
 
@@ -257,9 +266,12 @@ final class EdgeTruth {
         x.tell(0, 40);
         x.tell(1, 9);
         x.tell(2, 9999);
-        x.weigh(9, 8);
+        x.weigh(9, 4);
+        x.pitch(0, 0);
+        Scene.row(x, 0, Check.BYTES, 0);
         x.shout(0, 1, 0);
         x.shout(0, 0, 0);
+        x.weigh(9, 8);
         for (int voice = 0; voice < 2; voice++) {
             x.pitch(voice, 20);
         }
@@ -283,7 +295,7 @@ final class EdgeTruth {
         Edge.granted("image", x, 1, y -> y.image());
         wellIs(x, 2, 15, 1, 0, 5, 0, 1, 0, 1, 1, 1);
         changeAll(x);
-        wellIs(x, 8, 40, 9, 9999, 9, 8, 1, 2, 2, Integer.MIN_VALUE, 2, -1, 1);
+        wellIs(x, 8, 40, 9, 9999, 9, 8, 2, 1, 2, Integer.MIN_VALUE, 2, -1, 1);
         x.again();
         wellIs(x, 2, 15, 1, 0, 5, 0, 1, 0, 2, 1, 2, -1, 1);
         Edge.due("the first one's PITCH", x.voiceOf(0, 2), 0);
@@ -296,7 +308,7 @@ final class EdgeTruth {
         Edge.granted("a later image", x, 1, y -> y.image());
         x.tell(0, 0);
         x.again();
-        wellIs(x, 8, 40, 9, 9999, 9, 8, 1, 2, 3, Integer.MIN_VALUE, 2, -1, 2);
+        wellIs(x, 8, 40, 9, 9999, 9, 8, 2, 1, 3, Integer.MIN_VALUE, 2, -1, 2);
     }
 
     private static void promise54() {

@@ -1,3 +1,4 @@
+import java.util.Arrays;
 import java.util.function.Supplier;
 
 /** The sentences on A SHOUT, and those of promises 17, 18, 28, 45, 46 and 47: what needs no told word. */
@@ -91,7 +92,7 @@ final class EdgeVoices {
 
     private static void echoIs(int kind, int pitch, int depth, long[] word, long... want) {
         Supplier<WellIsAskedFirst> scene = Scene.but(Scene.thirds(kind, pitch, depth, 1), x -> Scene.row(x, 0, Check.BYTES, word));
-        String what = java.util.Arrays.toString(word) + " at " + depth + " by " + pitch + " of KIND " + kind;
+        String what = Arrays.toString(word) + " at " + depth + " by " + pitch + " of KIND " + kind;
         Edge.asked(what + ": how many", scene, want.length, x -> x.echo(0, word.length, 0, Check.NONE));
         for (int i = 0; i < want.length; i++) {
             int at = i;

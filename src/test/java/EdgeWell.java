@@ -144,8 +144,18 @@ final class EdgeWell {
         faultIs("voice 00 1", 10);
         faultIs("rain 1 0", 7);
         faultIs("rain 1rain 1", 6);
-        faultIs("a 1", 0);
-        faultIs("z 1", 0);
+        faultIs("rainz 1", 0);
+        faultIs("raina 1", 0);
+        faultIs("zrain 1", 0);
+        for (String word : new String[] {"voice", "pitch", "depth", "rain", "day", "weigh"}) {
+            for (int i = 0; i < word.length(); i++) {
+                faultIs(word.substring(0, i) + "q" + word.substring(i + 1) + " 3 1 1", 0);
+            }
+            for (int i = 1; i < word.length(); i++) {
+                faultIs(word.substring(0, i) + " " + word.substring(i) + " 3 1 1", 0);
+                faultIs(word.substring(0, i) + " 3 1 1", 0);
+            }
+        }
         // The bytes that stand next to those that begin a TOKEN, and next to the blank.
         for (int letter : new int[] {0, 9, 10, 13, 31, 33, '/', ':', '<', '@', 'A', 'Z', '[', '`', '{', 127, 128, 160, 255}) {
             faultIs((char) letter + "rain 1", 0);

@@ -220,6 +220,7 @@ final class EdgeWord {
         // Eleven times 3 is 33; 3 comes back as 6, and 39 is 7 by 8. Twelve times 3 is 36, and 0 comes back as 3.
         Edge.asked("behind 11", thirds(Check.DEEP, 0, 10, 1, 8, 7), 3, x -> x.ends(0, 11, 0));
         Edge.asked("behind 11 that are twelve", thirds(Check.STUTTERER, 0, 10, 1, 8, 7), 0, x -> x.ends(0, 11, 0));
+        Edge.asked("a LOST one behind a WORD that has YES", thirds(Check.VOICE, 0, 10, 1, 5, 3), 4, x -> x.ends(0, 1, 0));
         Supplier<WellIsAskedFirst> eleven = Scene.but(thirds(Check.DEEP, 0, 10, 1, 8, 7), x -> x.row(0, Check.BYTES, 11));
         Edge.asked("behind all of a ROW of 11", eleven, 3, x -> x.ends(0, 11, 0));
         Edge.sentence("27", "BY A WORD (voice; n 0 to 11).");
@@ -306,12 +307,12 @@ final class EdgeWord {
         Edge.asked("as long, but turned", Scene::laid, 0, x -> x.alike(Scene.THREE, 3, 2, 4));
         Edge.asked("longer", Scene::laid, 0, x -> x.alike(Scene.THREE, 3, 0, 2));
         Edge.asked("VOID for both", Scene.thirds(Check.VOICE, 0, 7, 1), 1, x -> x.alike(0, 12, 0, 0));
-        Supplier<WellIsAskedFirst> last = word(Scene.but(Scene::full, x -> {
-            x.pitch(6, 0);
-            x.pitch(7, 2);
-        }), 4, 4, 4, 4, 4, 4, 4, 4, 4, 4, 4, 0);
-        Edge.asked("the last SOUND is another", last, 0, x -> x.alike(0, 12, 6, 7));
-        Edge.asked("but for the last SOUND", last, 1, x -> x.alike(0, 11, 6, 7));
+        // By thirds of 10 and of 70, which are 3 and 23, 1 comes back as 7; 0 as 3 and 23.
+        Supplier<WellIsAskedFirst> late = Scene.but(Scene::laid, x -> x.tell(2, 600));
+        Supplier<WellIsAskedFirst> last = word(late, 1, 1, 1, 1, 1, 1, 1, 1, 1, 1, 1, 0);
+        Edge.asked("the last SOUND is another", last, 0, x -> x.alike(0, 12, 0, 5));
+        Edge.asked("but for the last SOUND", last, 1, x -> x.alike(0, 11, 0, 5));
+        Edge.asked("the first SOUND is another", word(late, 0, 1, 1), 0, x -> x.alike(0, 3, 0, 5));
         Edge.sentence("39", "BY A WORD (voices).");
         ByAWord.refuses(12, (x, s, n) -> x.alike(s, n, 0, 1));
         ByAWord.takes(12, (x, s, n) -> x.alike(s, n, 0, 1));
