@@ -17,6 +17,7 @@ import java.util.function.ToLongFunction;
 final class Edge {
     static final String WHAT = "What it is";
     static final String FACE = "The public face";
+    static final String NOT_PROMISED = "Not promised";
     static final String WELL = "1. THE WELL";
     static final String SHOUT = "2. A SHOUT";
     static final String COMES = "3. WHAT COMES OF IT";
@@ -154,8 +155,7 @@ final class Edge {
                 }
             }
             String untested = left.toString().replaceAll("[^A-Za-z0-9]+", " ").trim();
-            boolean isForSentences = !List.of(WHAT, FACE, "Terms", "Not promised").contains(where);
-            Check.holds(where + " has words without a test: " + untested, untested.isEmpty() || !isForSentences);
+            Check.holds(where + " has words without a test: " + untested, untested.isEmpty());
         }
     }
 

@@ -6,8 +6,6 @@ final class EdgeShelves {
     }
 
     static void run() {
-        whatItIs();
-        face();
         shelves();
         rows();
         lowestBits();
@@ -22,30 +20,6 @@ final class EdgeShelves {
         promise8();
         promise8Refuses();
         refusals();
-    }
-
-    private static void whatItIs() {
-        Edge.sentence(Edge.WHAT, "An object is used for at most 512 calls after it has been made");
-        WellIsAskedFirst x = new WellIsAskedFirst();
-        x.row(7, Check.LONGS, 40);
-        for (int call = 2; call <= 510; call++) {
-            x.set(7, call % 40, call);
-        }
-        Edge.due("the 511th call", x.voice(5, 0, 9), 0);
-        Edge.due("the 512th call", x.element(7, 510 % 40), 510);
-    }
-
-    private static void face() {
-        Edge.sentence(Edge.FACE, "public static final int NONE = -1;");
-        Edge.due("NONE", WellIsAskedFirst.NONE, -1);
-        Edge.sentence(Edge.FACE, "public int set(int s, int i, long v);");
-        WellIsAskedFirst x = new WellIsAskedFirst();
-        x.row(0, Check.LONGS, 2);
-        Edge.granted("the least long", x, 1, y -> y.set(0, 0, Long.MIN_VALUE));
-        Edge.granted("the greatest long", x, 1, y -> y.set(0, 1, Long.MAX_VALUE));
-        Edge.sentence(Edge.FACE, "public long element(int s, int i);");
-        Edge.due("the least long", x.element(0, 0), Long.MIN_VALUE);
-        Edge.due("the greatest long", x.element(0, 1), Long.MAX_VALUE);
     }
 
     private static void shelves() {

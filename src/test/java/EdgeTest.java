@@ -7,6 +7,7 @@ import java.nio.file.Path;
  */
 public final class EdgeTest {
     public static void main(String[] args) throws IOException {
+        EdgeFirst.run(Path.of(args[0]));
         EdgeShelves.run();
         EdgeWell.run();
         EdgeVoices.run();

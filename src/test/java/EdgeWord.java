@@ -164,6 +164,7 @@ final class EdgeWord {
         Edge.asked("VOID at 14 ends it", thirds(Check.VOICE, 0, 8, 0, 3, 0), 6, x -> x.sure(0, 3, 0));
         Edge.sentence("24", "SURE by a VOICE.");
         Edge.asked("15, 16, 17", thirds(Check.VOICE, 0, 15, 0, 5, 0), 3, x -> x.sure(0, 1, 0));
+        Edge.asked("60 at most", thirds(Check.VOICE, 0, 15, 1, 5, 0), 60, x -> x.sure(0, 1, 0));
         Edge.asked("no WORD", Scene::laid, 0, x -> x.sure(Scene.EMPTY, 0, 0));
         Edge.sentence("24", "BY A WORD (voice).");
         ByAWord.refuses(12, (x, s, n) -> x.sure(s, n, 0));
